@@ -111,6 +111,14 @@ public final class HoursTest {
         over("the same", g, 0, -7, 4);
         due.promise("promise 41");
         grade("a guide without entries yet", g, 1, 1, NONE, NONE);
+        ValleyGuides fresh = with(1, 1);
+        fresh.entry(0, 0, 5);
+        fresh.entry(0, 0, 8);
+        due.promise("promise 42");
+        over("the first call", fresh, 1, 3, 2);
+        fresh.entry(0, 0, 5);
+        over("the next after an entry", fresh, 1, 2, 1);
+        due.promise("promise 41");
         ValleyGuides below = with(2, 2);
         below.entry(0, 0, 9);
         below.entry(0, 1, 2);

@@ -1,5 +1,3 @@
-import java.lang.reflect.InvocationTargetException;
-import java.lang.reflect.Method;
 import java.util.ArrayList;
 import java.util.List;
 
@@ -136,24 +134,7 @@ public final class RandomRunsTest {
     }
 
     private void one(Due due, String run, String name, List<Object> arguments) {
-        String text = run + " " + name + arguments;
-        due.is(text, answer(guides, name, arguments), answer(model, name, arguments));
-    }
-
-    private static long answer(Object object, String name, List<Object> arguments) {
-        for (Method method : object.getClass().getMethods()) {
-            if (method.getName().equals(name) && method.getParameterCount() == arguments.size()
-                    && method.getDeclaringClass() == object.getClass()) {
-                try {
-                    return ((Number) method.invoke(object, arguments.toArray())).longValue();
-                } catch (InvocationTargetException thrown) {
-                    throw new IllegalStateException(name + arguments, thrown.getCause());
-                } catch (IllegalAccessException thrown) {
-                    throw new IllegalStateException(thrown);
-                }
-            }
-        }
-        throw new IllegalStateException("no method " + name);
+        Calls.both(due, run, guides, model, name, arguments);
     }
 
     private void run(Due due, int number) {

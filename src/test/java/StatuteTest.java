@@ -154,6 +154,12 @@ public final class StatuteTest {
         due.is("held", g.pay(0, 0, 1), 1000000);
         due.is("not upon not", Texts.tell(g, "bar " + times("not ", 57) + "1<2;"), 1);
         due.is("57 times", g.why(0, 0, 1), -4);
+        due.is("cut off within parts", Texts.tell(g, "pay 7-(6-(5-"), -22);
+        due.is("the next begins anew", Texts.tell(g, "pay 9-2;"), 1);
+        due.is("it pays", g.pay(0, 0, 1), 7);
+        due.is("cut off within a test", Texts.tell(g, "bar not 1<2 or not 3"), -30);
+        due.is("the next begins anew", Texts.tell(g, "pay ((((((8))))));"), 1);
+        due.is("it pays", g.pay(0, 0, 1), 8);
         due.is("a text of nothing takes all away", Texts.tell(g, ""), 0);
         due.is("no pay", g.pay(0, 0, 1), 0);
         g.feed(Texts.eight("pay 5;  ", 0));
@@ -190,6 +196,14 @@ public final class StatuteTest {
         bar("1<2 and 1<2", true);
         bar("1<2 and 2<1", false);
         bar("0-5<0", true);
+        bar("0<2-3", false);
+        bar("1>2-3", true);
+        bar("1=3-2", true);
+        bar("1+0<2", true);
+        bar("not 2>1", false);
+        bar("not 2=2", false);
+        bar("not 2=1", true);
+        bar("not 0<1 or not 0>1 and not 1=0", true);
         bar("2+3*4=14", true);
         bar("(2+3)*4=20", true);
         bar("9-4-3=2", true);

@@ -26,6 +26,16 @@ public final class WeatherTest {
         due.is("its cell", g.weather(5, 0), 9);
         due.is("a new row", g.sheet(0, 0, 24), 1);
         due.is("has cells of 0", g.weather(5, 0), 0);
+        for (int k = 0; k < 3; k++) {
+            for (int i = 0; i < 24; i++) {
+                g.sheet(k, k, 24);
+                g.lay(k, i, 50);
+                due.is("cell " + i + " was laid", g.weather(i, k), k == 0 ? 0 : 50);
+                g.lay(k, i, 5000);
+                g.sheet(k, k, 24);
+                due.is("cell " + i + " of a new row", g.weather(i, k), 0);
+            }
+        }
         due.is("of no cells", g.sheet(0, 0, 0), 1);
         due.is("has no first", g.unknown(0, 0), 2);
     }
