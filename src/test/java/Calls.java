@@ -17,10 +17,14 @@ final class Calls {
     }
 
     static long answer(Object object, String name, List<Object> arguments) {
+        return answer(object, named(object, name), arguments);
+    }
+
+    static long answer(Object object, Method method, List<Object> arguments) {
         try {
-            return ((Number) named(object, name).invoke(object, arguments.toArray())).longValue();
+            return ((Number) method.invoke(object, arguments.toArray())).longValue();
         } catch (InvocationTargetException thrown) {
-            throw new IllegalStateException(name + arguments, thrown.getCause());
+            throw new IllegalStateException(method.getName() + arguments, thrown.getCause());
         } catch (IllegalAccessException thrown) {
             throw new IllegalStateException(thrown);
         }

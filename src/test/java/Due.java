@@ -8,6 +8,16 @@ final class Due {
         promise = name;
     }
 
+    /** What comes now tests this sentence of a promise; DocTest looks whether the document says it. */
+    void says(int number, String sentence) {
+        promise = "promise " + number + ": '" + sentence + "'";
+    }
+
+    /** What comes now tests this sentence of the document's terms. */
+    void terms(String sentence) {
+        promise = "terms: '" + sentence + "'";
+    }
+
     void is(String call, long got, long want) {
         if (got == want) {
             right++;

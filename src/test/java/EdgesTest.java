@@ -5,7 +5,10 @@ import java.util.Arrays;
 import java.util.Comparator;
 import java.util.List;
 
-/** Every call with numbers at and behind all edges, on an object of nothing and on one that is full of everything. */
+/**
+ * Every call with numbers at and behind all edges, on an object of nothing and on one that is full of everything. Each has
+ * far more calls than the document bears: the class answers no otherwise then, and it must never throw.
+ */
 public final class EdgesTest {
     private static final Due due = new Due();
 

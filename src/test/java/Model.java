@@ -843,7 +843,7 @@ public final class Model {
 
     public int count(int what) {
         if (out(what, 0, 12)) return BAD;
-        run();
+        if (what == 11) run();
         return new int[] {beds.size(), steps.size(), routes.size(), guides.size(), statute.size(), people.size(), ropes.size(),
             entries.size(), purse, day, (int) guides.stream().filter(g -> g.out).count(),
             (int) ropes.stream().filter(r -> r.turned).count(), tape.length()}[what];

@@ -5,6 +5,8 @@ import java.util.List;
 public final class RandomRunsTest {
     private static final int RUNS = 1500;
     private static final int CALLS = 400;
+    /** A text told takes at most this many calls. */
+    private static final int A_TEXT = 34;
     private static final String[] SETUP = {
         "place 0..9", "step P P 0..4 1..9 0..5 B", "route S", "on R S", "guide 0..5 0..9 0..12", "person 0..9",
         "rope R 0..9 0..95 1..9", "entry R G 1..95", "wish X X -9..9", "tell", "sheet 0..3 0..2 -1..25", "lay 0..3 -1..24 V",
@@ -24,6 +26,7 @@ public final class RandomRunsTest {
     private long state;
     private ValleyGuides guides;
     private Model model;
+    private int calls;
 
     private RandomRunsTest(long seed) {
         state = seed;
@@ -48,7 +51,7 @@ public final class RandomRunsTest {
         }
         int counted = "PSRG?XCE".indexOf(kind);
         if (counted >= 0) {
-            return pick(pick(0, 19) == 0 ? -1 : 0, Math.max(0, guides.count(counted) - (pick(0, 9) == 0 ? 0 : 1)));
+            return pick(pick(0, 19) == 0 ? -1 : 0, Math.max(0, model.count(counted) - (pick(0, 9) == 0 ? 0 : 1)));
         }
         int size = pick(0, 9);
         return size == 0 ? 2000000000 : size < 3 ? pick(-40000, 40000) : size < 6 ? pick(0, 20100) : pick(-3, 70);
@@ -134,18 +137,20 @@ public final class RandomRunsTest {
     }
 
     private void one(Due due, String run, String name, List<Object> arguments) {
+        calls++;
         Calls.both(due, run, guides, model, name, arguments);
     }
 
     private void run(Due due, int number) {
         guides = new ValleyGuides();
         model = new Model();
+        calls = 0;
         if (pick(0, 4) > 0) {
             for (int k = 0; k < 3; k++) {
                 one(due, "run " + number, "sheet", List.of(k, k, 24));
             }
         }
-        for (int i = 0; i < CALLS; i++) {
+        for (int i = 0; i < CALLS && calls <= Run.MOST_CALLS - A_TEXT; i++) {
             boolean early = i < 40 ? pick(0, 9) > 0 : pick(0, 3) == 0;
             String spec = early ? SETUP[pick(0, i < 8 ? 1 : SETUP.length - 1)] : LATER[pick(0, LATER.length - 1)];
             call(due, spec, "run " + number + " call " + i);
