@@ -43,7 +43,11 @@ public final class PurseTest {
             g.give(100000);
         }
         due.is("nearly full", g.count(8), 999900008);
+        due.says(44, "BAD; FULL: more than 1000000000.");
         due.is("too much", g.give(99993), -3);
+        for (int what = 0; what <= 12; what++) {
+            due.is("too much changes nothing: count(" + what + ")", g.count(what), what == 8 ? 999900008 : 0);
+        }
         due.is("too much and bad", g.give(100001), -1);
         due.is("as much as there may be", g.give(99992), 1000000000);
         due.is("one more", g.give(1), -3);
