@@ -1,14 +1,21 @@
 import java.io.IOException;
+import java.lang.reflect.Field;
+import java.lang.reflect.Method;
+import java.lang.reflect.Modifier;
 import java.nio.file.Files;
 import java.nio.file.Path;
 import java.util.ArrayList;
 import java.util.List;
 import java.util.TreeMap;
+import java.util.TreeSet;
 import java.util.regex.Matcher;
 import java.util.regex.Pattern;
 import java.util.stream.Stream;
 
-/** Every sentence of the promises and of the terms is one that a test names, and no test names one that is not there. */
+/**
+ * Every sentence of the promises and of the terms is one that a test names, and no test names one that is not there; the
+ * face is the one that the document shows.
+ */
 public final class DocTest {
     private static final Path DOCUMENT = Path.of("../shared/DOC.md");
     private static final Path TESTS = Path.of("src/test/java");
@@ -67,7 +74,44 @@ public final class DocTest {
         due.holds(where + " has a test for '" + left + "'", left.isEmpty());
     }
 
-    public static void main(String[] arguments) throws IOException {
+    /** The members that others see, each as the document writes it. */
+    private static TreeSet<String> face() throws IllegalAccessException {
+        TreeSet<String> members = new TreeSet<>();
+        for (Method method : ValleyGuides.class.getDeclaredMethods()) {
+            StringBuilder text = new StringBuilder("public " + method.getReturnType() + " " + method.getName() + "(");
+            for (Class<?> type : method.getParameterTypes()) {
+                text.append(text.charAt(text.length() - 1) == '(' ? "" : ", ").append(type);
+            }
+            if (!Modifier.isPrivate(method.getModifiers())) {
+                members.add(text.append(");").toString());
+            }
+        }
+        for (Field field : ValleyGuides.class.getDeclaredFields()) {
+            if (!Modifier.isPrivate(field.getModifiers())) {
+                members.add("public static final " + field.getType() + " " + field.getName() + " = " + field.get(null) + ";");
+            }
+        }
+        members.add("public ValleyGuides();");
+        return members;
+    }
+
+    /** Without the names of parameters, which are free, and each constant by itself. */
+    private static TreeSet<String> shown(String document) {
+        TreeSet<String> members = new TreeSet<>();
+        for (String line : section(document, "```java\npublic final class ValleyGuides {\n", "}\n```").split("\n")) {
+            String member = line.trim();
+            if (member.startsWith("public static final int ")) {
+                for (String constant : member.substring("public static final int ".length()).split("[,;] ?")) {
+                    members.add("public static final int " + constant + ";");
+                }
+            } else {
+                members.add(member.replaceAll("(int|long|boolean) \\w+(?=[,)])", "$1"));
+            }
+        }
+        return members;
+    }
+
+    public static void main(String[] arguments) throws IOException, IllegalAccessException {
         if (!Files.exists(DOCUMENT)) {
             System.out.println("there is no document to look at");
             return;
@@ -77,6 +121,7 @@ public final class DocTest {
         for (int number = 1; number <= PROMISES; number++) {
             covered("promise " + number, promise(document, number), named.getOrDefault(number, List.of()));
         }
+        due.holds("the face is " + shown(document) + ", not " + face(), shown(document).equals(face()));
         covered("terms", terms(document), named.getOrDefault(TERMS, List.of()));
         due.close();
     }

@@ -1,6 +1,6 @@
 /** Promises 44 to 48, sentence by sentence, at their bounds: the purse, images, counts. */
 public final class PurseBoundsTest {
-    private static final int BAD = -1, STATE = -2, NONE = -4;
+    private static final int BAD = -1, STATE = -2, FULL = -3, NONE = -4;
     private static final Due due = new Due();
 
     private static Scene guides(int n) {
@@ -9,15 +9,40 @@ public final class PurseBoundsTest {
 
     private static void give() {
         due.says(44, "Pence (1 to 100000) come to THE PURSE: how many it has.");
-        Run run = new Run(due).is("give 1", 1).is("give 100000", 100001).is("give 99999", 200000).is("give 1", 200001).is("count 8", 200001);
-        for (int i = 1; i <= 500; i++) {
-            run.is("give 100000", 200001 + 100000 * i);
-        }
-        // PurseTest has what is FULL: no object is used for as many calls as that takes.
+        new Run(due).is("give 1", 1).is("give 100000", 100001).is("give 99999", 200000).is("give 1", 200001).is("count 8", 200001);
+        mostInAllCalls();
         due.says(44, "BAD; FULL: more than 1000000000.");
         Scenes.empty(due).edges("give #", 1, 1, 100000, 100000, BAD);
         Scenes.rich(due).edges("give #", 1, 722, 100000, 100721, BAD);
         Scenes.full(due).edges("give #", 1, 6, 100000, 100005, BAD);
+        for (Scene scene : new Scene[] {Scenes.empty(due), Scenes.rich(due), Scenes.full(due)}) {
+            fullAt(scene);
+        }
+    }
+
+    /** None of the 512 calls that an object bears is refused, whichever of the two ways the pence come. */
+    private static void mostInAllCalls() {
+        Run run = new Run(due);
+        for (int i = 1; i <= Run.MOST_CALLS; i++) {
+            run.is("give 100000", 100000 * i);
+        }
+        Run tenths = going().and("guide 0 0 999", "tell pay 9999*9999;").start();
+        int purse = 0;
+        while (tenths.calls() + 3 <= Run.MOST_CALLS) {
+            tenths.is("go 0 0 1", 1).is("day 0", 0).is("give 100000", purse + 200000);
+            purse += 200000;
+        }
+        tenths.is("count 8", purse);
+    }
+
+    /** No calls bring so much, so it is put there: 1000000000 is still taken, one more is not. */
+    private static void fullAt(Scene scene) {
+        scene.and("purse 999899999").taken("give 100000", 999999999);
+        scene.and("purse 999900000").taken("give 100000", 1000000000).refused("give 100001", BAD);
+        scene.and("purse 999900001").refused("give 100000", FULL).taken("give 99999", 1000000000);
+        scene.and("purse 999999999").taken("give 1", 1000000000).refused("give 2", FULL).refused("give 0", BAD);
+        scene.and("purse 1000000000").refused("give 1", FULL).refused("give 100000", FULL).refused("give 100001", BAD)
+            .refused("give 0", BAD).refused("give -1", BAD).refused("give " + Integer.MIN_VALUE, BAD).refused("give " + Integer.MAX_VALUE, BAD);
     }
 
     private static void share() {

@@ -38,20 +38,7 @@ public final class PurseTest {
         due.is("give(100000)", g.give(100000), 100001);
         due.is("give(7)", g.give(7), 100008);
         due.is("count(8)", g.count(8), 100008);
-        // More calls than the document bears, as no fewer fill the purse.
-        for (int i = 2; i <= 9999; i++) {
-            g.give(100000);
-        }
-        due.is("nearly full", g.count(8), 999900008);
-        due.says(44, "BAD; FULL: more than 1000000000.");
-        due.is("too much", g.give(99993), -3);
-        for (int what = 0; what <= 12; what++) {
-            due.is("too much changes nothing: count(" + what + ")", g.count(what), what == 8 ? 999900008 : 0);
-        }
-        due.is("too much and bad", g.give(100001), -1);
-        due.is("as much as there may be", g.give(99992), 1000000000);
-        due.is("one more", g.give(1), -3);
-        due.is("it stays", g.count(8), 1000000000);
+        // What is FULL stands in PurseBoundsTest: no object bears as many calls as that takes.
     }
 
     private static void share() {

@@ -1,3 +1,4 @@
+import java.lang.reflect.Field;
 import java.lang.reflect.Method;
 import java.util.ArrayList;
 import java.util.HashMap;
@@ -7,6 +8,7 @@ import java.util.Map;
 /**
  * One object and the calls it has had, never more than the document bears. Calls are told as texts:
  * "step 0 1 2 5 3 true". "tell pay 1;" lays a text on the tape and tells it, "tape pay 1;" lays it only.
+ * "purse 5" is no call: it puts so many pence into the purse by hand.
  */
 final class Run {
     static final int MOST_CALLS = 512;
@@ -32,6 +34,9 @@ final class Run {
         if (name.equals("tape") || name.equals("tell")) {
             return lay(text.substring(name.length() + 1), name.equals("tell"));
         }
+        if (name.equals("purse")) {
+            return setPurse(Integer.parseInt(text.substring(name.length() + 1)));
+        }
         calls++;
         if (calls > MOST_CALLS) {
             throw new IllegalStateException("an object is used for at most " + MOST_CALLS + " calls");
@@ -53,6 +58,24 @@ final class Run {
         }
         long had = call("end " + text.length());
         return toBeTold ? call("text") : had;
+    }
+
+    /** No run of calls that an object bears brings the purse near its bound: so the field itself is set. */
+    private long setPurse(int pence) {
+        try {
+            Object guild = field(guides, "guild").get(guides);
+            Object now = field(guild, "now").get(guild);
+            field(now, "purse").setInt(now, pence);
+            return pence;
+        } catch (ReflectiveOperationException thrown) {
+            throw new IllegalStateException("the purse is held elsewhere now", thrown);
+        }
+    }
+
+    private static Field field(Object object, String name) throws ReflectiveOperationException {
+        Field field = object.getClass().getDeclaredField(name);
+        field.setAccessible(true);
+        return field;
     }
 
     private static List<Object> arguments(String text, Method method) {
